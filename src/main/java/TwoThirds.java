@@ -37,6 +37,9 @@ public final class TwoThirds {
     private static final int BYTES = 0;
     private static final int SHORTS = 1;
     private static final int INTS = 2;
+    private static final int LEAST_BYTE = -128;
+    private static final int LEAST_SHORT = -32768;
+    private static final int LEAST_INT = -2147483648;
 
     private static final int HOLDS_NOTHING = 0;
     private static final int HOLDS_PERSON = 1;
@@ -57,7 +60,7 @@ public final class TwoThirds {
     private static final long LESS_OF_LONGS = -4000000000000000000L;
 
     /** How far from winning a card is that can't win. */
-    private static final int NEVER = Integer.MAX_VALUE;
+    private static final int NEVER = 2147483647;
 
     private final Game now;
     private final Game kept;
@@ -694,9 +697,9 @@ public final class TwoThirds {
 
         int leastNumber() {
             if (sort == BYTES) {
-                return Byte.MIN_VALUE;
+                return LEAST_BYTE;
             }
-            return sort == SHORTS ? Short.MIN_VALUE : Integer.MIN_VALUE;
+            return sort == SHORTS ? LEAST_SHORT : LEAST_INT;
         }
 
         int sum() {
@@ -934,7 +937,7 @@ public final class TwoThirds {
 
         private int drawBelow(int n) {
             z = z * 1103515245 + 12345;
-            int drawn = (z & Integer.MAX_VALUE) / 65536;
+            int drawn = (z & 0x7fffffff) / 65536;
             return n < 1 ? 0 : drawn % n;
         }
 

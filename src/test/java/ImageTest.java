@@ -4,6 +4,7 @@ public final class ImageTest {
         allComesBack();
         anImageOfNothing();
         theImageStays();
+        aFullHouse();
         count();
         Due.end("ImageTest");
     }
@@ -94,6 +95,20 @@ public final class ImageTest {
         x.wins(0, 3);
         x.restore();
         Due.same("what is in mind is no image", x.count(1), 0);
+    }
+
+    private static void aFullHouse() {
+        TwoThirds x = Due.with("p0 0 0;p5 0 0;p0 0 0;p5 0 0;p0 0 0;p5 0 0;p0 0 0;p5 0 0;p0 0 0;p5 0 0;p0 0 0;p2 1 0;", 12);
+        x.round();
+        Due.same("image()", x.image(), 12);
+        x.anew();
+        Due.same("restore()", x.restore(), 12);
+        Due.same("card", x.of(11, 3), 33);
+        Due.same("sum", x.last(0), 833);
+        // 833 by 12, two thirds of it: 46 and a bit, so all who wrote 50.
+        Due.same("how many win", x.last(1), 6);
+        Due.same("wins", x.wins(10, 3), 3);
+        Due.same("wins", x.wins(11, 3), 0);
     }
 
     private static void count() {

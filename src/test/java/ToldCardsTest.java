@@ -78,6 +78,9 @@ public final class ToldCardsTest {
         Due.same("below: nobody", x.winners(0, 1), -4);
         x.set(3, 0);
         Due.same("nearest: one", x.winners(0, 0), 1);
+        x.set(0, 0);
+        Due.fill(x, 0, Due.BYTES, 5, 3);
+        Due.same("nearest to nought", x.winners(0, 1), 1);
         Due.same("what 2", x.winners(0, 2), -1);
         Due.same("what -1", x.winners(0, -1), -1);
         Due.same("no such shelf", x.winners(-1, 0), -1);
@@ -190,6 +193,12 @@ public final class ToldCardsTest {
         Due.fill(x, 5, Due.BYTES, 0, 9);
         Due.same("a row beside itself", x.words(5, 5, 0), 0);
         Due.same("a row beside itself", x.words(5, 5, 1), 1);
+        TwoThirds y = new TwoThirds();
+        y.set(2, 1);
+        Due.fill(y, 0, Due.BYTES, 1, 1);
+        Due.fill(y, 1, Due.BYTES, 1, 1);
+        Due.same("all levels are 0", y.words(0, 1, 0), 0);
+        Due.same("all levels are 0", y.words(0, 1, 1), 2);
         Due.crowd(x, "p0 0 0;", 1);
         x.keep(6, 1, 0);
         Due.same("d a person", x.words(6, 1, 0), -12);
