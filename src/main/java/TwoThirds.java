@@ -927,7 +927,7 @@ public final class TwoThirds {
         }
 
         private boolean addPerson(int kind, int stepCount, int slip) {
-            if (kind > WRONG || !isStepCount(stepCount) || slip > MOST_SLIP || people >= persons.length) {
+            if (kind < PERSON || kind > WRONG || !isStepCount(stepCount) || slip > MOST_SLIP || people >= persons.length) {
                 return false;
             }
             persons[people].begin(people, kind, stepCount, slip);
