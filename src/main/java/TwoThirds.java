@@ -679,7 +679,7 @@ public final class TwoThirds {
         }
 
         int at(int i) {
-            return hasPlace(i) ? elements[i] : 0;
+            return i >= 0 && i < size ? elements[i] : 0;
         }
 
         void write(int i, int v) {
@@ -942,7 +942,10 @@ public final class TwoThirds {
         }
 
         private int heldToCards(int number) {
-            return Math.max(0, Math.min(high, number));
+            if (number < 0) {
+                return 0;
+            }
+            return number > high ? high : number;
         }
 
         int middle() {
@@ -976,7 +979,10 @@ public final class TwoThirds {
         }
 
         private int learned(int k) {
-            return rounds == 0 ? stepped(k) : sharedTimes(over(lastSum, people), Math.max(1, k));
+            if (rounds == 0) {
+                return sharedTimes(middle(), k);
+            }
+            return sharedTimes(over(lastSum, people), k == 0 ? 1 : k);
         }
 
         /** Draws for those who hold by a draw. */
@@ -1228,15 +1234,12 @@ public final class TwoThirds {
             return true;
         }
 
-        private boolean isDigitNext() {
-            return text.hasPlace(place) && text.at(place) >= '0' && text.at(place) <= '9';
-        }
-
         private boolean takesDigit() {
-            if (!isDigitNext()) {
+            int sign = text.at(place);
+            if (sign < '0' || sign > '9') {
                 return false;
             }
-            number = text.at(place) - '0';
+            number = sign - '0';
             place++;
             return true;
         }

@@ -6,15 +6,34 @@ final class Due {
 
     private static int asked = 0;
     private static int wrong = 0;
+    private static String sentence = "";
+    private static int askedAheadOfIt = -1;
 
     private Due() {
+    }
+
+    /** The document's sentence that what is asked from here on belongs to; told with what is not as due. */
+    static void sentence(String words) {
+        endSentence();
+        sentence = "[" + words + "] ";
+        askedAheadOfIt = asked;
+    }
+
+    private static void endSentence() {
+        if (askedAheadOfIt == asked) {
+            tellWrong("nothing is asked");
+        }
+    }
+
+    private static void tellWrong(String what) {
+        wrong++;
+        System.out.println(sentence + what);
     }
 
     static void same(String call, long got, long want) {
         asked++;
         if (got != want) {
-            wrong++;
-            System.out.println(call + " answered " + got + ", due is " + want);
+            tellWrong(call + " answered " + got + ", due is " + want);
         }
     }
 
@@ -30,12 +49,12 @@ final class Due {
     static void sameText(String call, String got, String want) {
         asked++;
         if (!got.equals(want)) {
-            wrong++;
-            System.out.println(call + " answered " + got + ", due is " + want);
+            tellWrong(call + " answered " + got + ", due is " + want);
         }
     }
 
     static void end(String test) {
+        endSentence();
         System.out.println(test + ": " + asked + " answers, " + wrong + " not as due");
         if (wrong != 0 || asked == 0) {
             System.exit(1);
@@ -68,5 +87,21 @@ final class Due {
         TwoThirds x = new TwoThirds();
         crowd(x, text, statements);
         return x;
+    }
+
+    /** The number from which one draw leads to z. */
+    static int zAheadOf(int z) {
+        int step = 1103515245;
+        int turnedBack = step;
+        for (int i = 0; i < 5; i++) {
+            turnedBack *= 2 - step * turnedBack;
+        }
+        return (z - 12345) * turnedBack;
+    }
+
+    static int zOf(TwoThirds x) {
+        int z = x.set(4, 0);
+        x.set(4, z);
+        return z;
     }
 }

@@ -211,7 +211,11 @@ public final class RandomRunsTest {
         return random.nextInt(3) == 0 ? random.nextInt() : all[random.nextInt(all.length)];
     }
 
+    /** Beyond its last call an object's answers are free. */
     private void ask(int call, int... a) {
+        if (calls == CALLS) {
+            return;
+        }
         calls++;
         StringBuilder told = new StringBuilder("run ").append(run).append(": ").append(NAMES[call]).append('(');
         for (int i = 0; i < a.length; i++) {
